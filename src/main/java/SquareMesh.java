@@ -76,7 +76,8 @@ public final class SquareMesh {
             return false;
         }
         past.push(mesh);
-        mesh.shift(point, x, y);
+        mesh.takeOut(point);
+        mesh.insert(point, x, y);
         return true;
     }
 
@@ -176,7 +177,8 @@ public final class SquareMesh {
         if (mesh.told.atPlace(x, y) != NONE) {
             return false;
         }
-        mesh.shift(p, x, y);
+        mesh.takeOut(p);
+        mesh.insert(p, x, y);
         return true;
     }
 
@@ -965,12 +967,7 @@ public final class SquareMesh {
             return p;
         }
 
-        void shift(int p, int x, int y) {
-            takeOut(p);
-            insert(p, x, y);
-        }
-
-        private void insert(int p, int x, int y) {
+        void insert(int p, int x, int y) {
             int t = whereIn(x, y);
             if (t == NONE) {
                 return;
@@ -1157,9 +1154,9 @@ public final class SquareMesh {
             if (c == NONE || d == NONE) {
                 return true;
             }
-            long under = under(a, b, c, told.xs[d], told.ys[d], lift[d]);
-            if (under != 0) {
-                return under < 0;
+            long depth = under(a, b, c, told.xs[d], told.ys[d], lift[d]);
+            if (depth != 0) {
+                return depth < 0;
             }
             int first = told.ahead(told.ahead(a, b), told.ahead(c, d));
             return first == a || first == b;
@@ -1704,7 +1701,7 @@ public final class SquareMesh {
             far[goal] = 0;
             queue[0] = goal;
             int queued = 1;
-            for (int k = 0; k < queued; k++) {
+            for (int k = 0; k < queued && k < MOST_TRIANGLES; k++) {
                 int t = queue[k];
                 for (int side = 0; side < 3; side++) {
                     int next = mesh.isOpen(t, side) ? mesh.across(t, side) : NONE;

@@ -312,6 +312,7 @@ public final class PromisesTest {
         down.fix(4, 5);
         Due.is("9 below 0", down.refine(1), 1);
         Due.is("9 downward", down.at(-51, -1), 7);
+        Due.is("9 ten", new SquareMesh().refine(10), 10);
         SquareMesh full = new SquareMesh();
         full.drawn(20, 1000);
         full.drawn(20, 1000);
@@ -425,6 +426,8 @@ public final class PromisesTest {
         Due.is("14 G ahead", m.is(6), 7);
         Due.is("14 points", m.is(0), 4);
         Due.is("14 none more", m.undo(), -1);
+        stepsOfHoles();
+        stepsOfPlaces();
         for (int k = 0; k < 25; k++) {
             m.point(k, 0);
         }
@@ -434,6 +437,27 @@ public final class PromisesTest {
         }
         Due.is("14 five are left", m.is(0), 9);
         Due.is("14 no more", m.undo(), -1);
+    }
+
+    private static void stepsOfHoles() {
+        SquareMesh m = halves();
+        m.hole(500, 500);
+        m.fill();
+        m.hole(-500, -500);
+        Due.is("14 a hole elsewhere", m.ofRegion(0, 3), 1);
+        m.undo();
+        m.undo();
+        Due.is("14 the hole where it was", m.ofRegion(1, 3), 1);
+        Due.is("14 no other hole", m.ofRegion(0, 3), 0);
+    }
+
+    private static void stepsOfPlaces() {
+        SquareMesh m = new SquareMesh();
+        m.point(0, 0);
+        m.move(4, 0, 900);
+        Due.is("14 the circle goes wide", m.circle(0, 0, 800), 1);
+        m.undo();
+        Due.is("14 the circle as it was", m.circle(0, 0, 1), -1);
     }
 
     private static void promise46() {
@@ -476,6 +500,30 @@ public final class PromisesTest {
         m.drop(7);
         Due.is("60 it stays", m.back(), 8);
         Due.is("60 all again", m.of(7, 0), 100);
+        stepsOfTheImage();
+    }
+
+    private static void stepsOfTheImage() {
+        SquareMesh m = new SquareMesh();
+        for (int k = 0; k < 5; k++) {
+            m.tell(100 + k);
+            m.point(100 * k + 1, k);
+        }
+        m.image();
+        for (int k = 0; k < 5; k++) {
+            m.undo();
+        }
+        m.tell(7);
+        m.drawn(20, 500);
+        m.drawn(20, 500);
+        Due.is("60 back to five", m.back(), 9);
+        for (int k = 4; k >= 0; k--) {
+            Due.is("60 steps of then", m.undo(), k);
+            Due.is("60 points of then", m.is(0), 4 + k);
+            Due.is("60 triangles of then", m.is(1), 2 + 2 * k);
+            Due.is("60 G of then", m.is(6), 100 + k);
+        }
+        Due.is("60 no more steps", m.undo(), -1);
     }
 
     private static void counts() {
@@ -616,11 +664,29 @@ public final class PromisesTest {
         Due.is("26 no step", m.walk(3, 0, 900, 1), 0);
         Due.is("26 on its edge", m.walk(0, 500, -250, 0), 0);
         Due.is("26 of several edges the first", m.walk(3, 0, -900, 1), 2);
+        walksThatNeverGoBack();
         Due.is("26 no such thing", m.walk(0, 0, 0, 3), -1);
         Due.is("26 below", m.walk(0, 0, 0, -1), -1);
         Due.is("26 no such triangle", m.walk(4, 0, 0, 0), -1);
         Due.is("26 triangle below", m.walk(-1, 0, 0, 0), -1);
         Due.is("26 out", m.walk(0, 1001, 0, 0), -1);
+    }
+
+    // Fixed edges make a wheel of eight triangles: round its middle one the walk would never end.
+    private static void walksThatNeverGoBack() {
+        SquareMesh m = new SquareMesh();
+        m.point(800, 500);
+        m.point(800, -400);
+        m.point(400, 500);
+        m.fix(3, 4);
+        m.fix(1, 6);
+        int[] ends = {1, 7, 7, 0, 7, 2, 4, 7};
+        int[] edges = {6, 7, 7, 6, 7, 6, 6, 0};
+        for (int t = 0; t < 8; t++) {
+            Due.is("26 round a wheel from " + t, m.walk(t, 600, 300, 0), ends[t]);
+            Due.is("26 edges round a wheel from " + t, m.walk(t, 600, 300, 1), edges[t]);
+            Due.is("26 in the middle from " + t, m.walk(t, 600, 300, 2), ends[t] == 7 ? 1 : 0);
+        }
     }
 
     private static void stars() {
@@ -653,7 +719,7 @@ public final class PromisesTest {
     private static void rings() {
         SquareMesh m = new SquareMesh();
         m.point(0, 500);
-        Due.is("28 itself", m.ring(0, 0), 1);
+        Due.is("28 itself", m.ring(0, 0), 0b00001);
         Due.is("28 one away", m.ring(0, 1), 0b11010);
         Due.is("28 two away", m.ring(0, 2), 0b00100);
         Due.is("28 none so far", m.ring(0, 3), 0);
