@@ -312,6 +312,13 @@ public final class PromisesTest {
         down.fix(4, 5);
         Due.is("9 below 0", down.refine(1), 1);
         Due.is("9 downward", down.at(-51, -1), 7);
+        // the thinnest one is (4, 5, 6), as long from 5 to 6 as from 6 to 4
+        SquareMesh alike = new SquareMesh();
+        alike.point(-10, -1000);
+        alike.point(10, -1000);
+        alike.point(0, 0);
+        alike.refine(1);
+        Due.is("9 of like ones from the first corner on", alike.at(5, -500), 7);
         Due.is("9 ten", new SquareMesh().refine(10), 10);
         SquareMesh full = new SquareMesh();
         full.drawn(20, 1000);
@@ -672,7 +679,7 @@ public final class PromisesTest {
         Due.is("26 out", m.walk(0, 1001, 0, 0), -1);
     }
 
-    // Fixed edges make a wheel of eight triangles: round its middle one the walk would never end.
+    // Fixed edges make a wheel of triangles: round its middle one the walk would never end.
     private static void walksThatNeverGoBack() {
         SquareMesh m = new SquareMesh();
         m.point(800, 500);
@@ -680,12 +687,25 @@ public final class PromisesTest {
         m.point(400, 500);
         m.fix(3, 4);
         m.fix(1, 6);
-        int[] ends = {1, 7, 7, 0, 7, 2, 4, 7};
-        int[] edges = {6, 7, 7, 6, 7, 6, 6, 0};
-        for (int t = 0; t < 8; t++) {
-            Due.is("26 round a wheel from " + t, m.walk(t, 600, 300, 0), ends[t]);
-            Due.is("26 edges round a wheel from " + t, m.walk(t, 600, 300, 1), edges[t]);
-            Due.is("26 in the middle from " + t, m.walk(t, 600, 300, 2), ends[t] == 7 ? 1 : 0);
+        walks(m, 600, 300, new int[] {1, 7, 7, 0, 7, 2, 4, 7}, new int[] {6, 7, 7, 6, 7, 6, 6, 0});
+        // here 3 lies beside the wheel: from 3 over 4, 6, 2, 1, 0, 5, and 4 was walked through already
+        SquareMesh other = new SquareMesh();
+        other.point(-900, -500);
+        other.point(-500, -500);
+        other.point(-800, 200);
+        other.fix(1, 3);
+        other.fix(4, 1);
+        other.fix(6, 0);
+        other.fix(3, 5);
+        walks(other, -800, -300, new int[] {7, 2, 7, 7, 7, 0, 4, 7}, new int[] {6, 5, 6, 7, 6, 5, 5, 0});
+    }
+
+    private static void walks(SquareMesh m, int x, int y, int[] ends, int[] edges) {
+        int middle = m.in(x, y);
+        for (int t = 0; t < ends.length; t++) {
+            Due.is("26 round a wheel from " + t, m.walk(t, x, y, 0), ends[t]);
+            Due.is("26 edges round a wheel from " + t, m.walk(t, x, y, 1), edges[t]);
+            Due.is("26 in the middle from " + t, m.walk(t, x, y, 2), ends[t] == middle ? 1 : 0);
         }
     }
 
