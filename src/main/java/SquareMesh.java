@@ -21,14 +21,28 @@ public final class SquareMesh {
     private static final int MOST_TRIANGLES = 74;
     private static final int MOST_EDGES = 113;
 
+    // Where the parts of a kept state lie in its share of the rows of Past.
+    private static final int KEPT_YS = MOST;
+    private static final int KEPT_HEIGHTS = 2 * MOST;
+    private static final int KEPT_HOLE_XS = 3 * MOST;
+    private static final int KEPT_HOLE_YS = KEPT_HOLE_XS + MOST_HOLES;
+    private static final int KEPT_HOLES = KEPT_HOLE_YS + MOST_HOLES;
+    private static final int KEPT_G = KEPT_HOLES + 1;
+    private static final int KEPT_TRIANGLES = KEPT_G + 1;
+    private static final int KEPT_CORNERS = KEPT_TRIANGLES + 1;
+    private static final int KEPT_NUMBERS = KEPT_CORNERS + 3 * MOST_TRIANGLES;
+    private static final int KEPT_BITS = MOST + 1;
+
+    // The steps, and the state above the latest of them.
+    private static final int MOST_KEPT = MOST_STEPS + 1;
+
     // No pair of points is flipped apart twice, so no run of flips comes near this.
     private static final int MANY = 1000000;
 
     private final Mesh mesh;
     private final Mesh tried;
-    private final Shot pictured;
     private final Past past;
-    private final Past picturedPast;
+    private final Past pictured;
     private final Regions regions;
     private final Ways ways;
     private final Passages passages;
@@ -39,9 +53,8 @@ public final class SquareMesh {
     public SquareMesh() {
         mesh = new Mesh();
         tried = new Mesh();
-        pictured = new Shot();
         past = new Past();
-        picturedPast = new Past();
+        pictured = new Past();
         regions = new Regions();
         ways = new Ways();
         passages = new Passages();
@@ -49,7 +62,7 @@ public final class SquareMesh {
         wrapped = new Hull();
         colours = new int[MOST];
         mesh.start();
-        pictured.take(mesh);
+        pictured.keepTop(mesh);
     }
 
     // ---- what changes the mesh
@@ -223,21 +236,21 @@ public final class SquareMesh {
 
     // All is in the image, so the steps that can be taken back are too.
     public int image() {
-        pictured.take(mesh);
-        picturedPast.copyFrom(past);
+        pictured.copyFrom(past);
+        pictured.keepTop(mesh);
         return mesh.told.points();
     }
 
     public int back() {
-        pictured.give(mesh);
-        past.copyFrom(picturedPast);
+        pictured.giveTop(mesh);
+        past.copyFrom(pictured);
         return mesh.told.points();
     }
 
     public int fresh() {
         int count = 0;
         for (int t = 0; t < mesh.triangles; t++) {
-            if (!pictured.had(mesh.cornerOf(t, 0), mesh.cornerOf(t, 1), mesh.cornerOf(t, 2))) {
+            if (!pictured.topHad(mesh.cornerOf(t, 0), mesh.cornerOf(t, 1), mesh.cornerOf(t, 2))) {
                 count++;
             }
         }
@@ -698,7 +711,7 @@ public final class SquareMesh {
         if (!mesh.told.takes(x, y)) {
             return NONE;
         }
-        tried.become(mesh.told, mesh.corners, mesh.triangles);
+        tried.become(mesh);
         tried.tellPoint(x, y);
         return countNew();
     }
@@ -707,7 +720,7 @@ public final class SquareMesh {
         if (!mesh.told.isLoose(point)) {
             return NONE;
         }
-        tried.become(mesh.told, mesh.corners, mesh.triangles);
+        tried.become(mesh);
         tried.takeOut(point);
         return countNew();
     }
@@ -716,7 +729,7 @@ public final class SquareMesh {
         if (!mesh.canFix(point, other)) {
             return NONE;
         }
-        tried.become(mesh.told, mesh.corners, mesh.triangles);
+        tried.become(mesh);
         tried.fixEdge(point, other);
         return countNew();
     }
@@ -725,7 +738,7 @@ public final class SquareMesh {
         if (!mesh.canFree(point, other)) {
             return NONE;
         }
-        tried.become(mesh.told, mesh.corners, mesh.triangles);
+        tried.become(mesh);
         tried.freeEdge(point, other);
         return countNew();
     }
@@ -793,6 +806,30 @@ public final class SquareMesh {
             there = other.there;
             holes = other.holes;
             g = other.g;
+        }
+
+        void copyTo(int[] numbers, int at, long[] bits, int bitsAt) {
+            System.arraycopy(xs, 0, numbers, at, MOST);
+            System.arraycopy(ys, 0, numbers, at + KEPT_YS, MOST);
+            System.arraycopy(heights, 0, numbers, at + KEPT_HEIGHTS, MOST);
+            System.arraycopy(holeXs, 0, numbers, at + KEPT_HOLE_XS, MOST_HOLES);
+            System.arraycopy(holeYs, 0, numbers, at + KEPT_HOLE_YS, MOST_HOLES);
+            System.arraycopy(fixed, 0, bits, bitsAt, MOST);
+            bits[bitsAt + MOST] = there;
+            numbers[at + KEPT_HOLES] = holes;
+            numbers[at + KEPT_G] = g;
+        }
+
+        void copyFrom(int[] numbers, int at, long[] bits, int bitsAt) {
+            System.arraycopy(numbers, at, xs, 0, MOST);
+            System.arraycopy(numbers, at + KEPT_YS, ys, 0, MOST);
+            System.arraycopy(numbers, at + KEPT_HEIGHTS, heights, 0, MOST);
+            System.arraycopy(numbers, at + KEPT_HOLE_XS, holeXs, 0, MOST_HOLES);
+            System.arraycopy(numbers, at + KEPT_HOLE_YS, holeYs, 0, MOST_HOLES);
+            System.arraycopy(bits, bitsAt, fixed, 0, MOST);
+            there = bits[bitsAt + MOST];
+            holes = numbers[at + KEPT_HOLES];
+            g = numbers[at + KEPT_G];
         }
 
         boolean has(int p) {
@@ -945,11 +982,17 @@ public final class SquareMesh {
             list();
         }
 
-        void become(Told newTold, int[] newCorners, int newTriangles) {
-            told.copyFrom(newTold);
+        void become(Mesh other) {
+            told.copyFrom(other.told);
+            layAll(other.corners, 0, other.triangles);
+        }
+
+        /** Lays the triangles whose corners stand in a row from a place on. */
+        void layAll(int[] row, int at, int newTriangles) {
             Arrays.fill(apex, NONE);
             for (int t = 0; t < newTriangles && t < MOST_TRIANGLES; t++) {
-                lay(newCorners[3 * t], newCorners[3 * t + 1], newCorners[3 * t + 2]);
+                int first = at + 3 * t;
+                lay(row[first], row[first + 1], row[first + 2]);
             }
             liftRound();
             list();
@@ -1433,60 +1476,27 @@ public final class SquareMesh {
         }
     }
 
-    /** A state that is kept: what was told, and the triangles, so that none must be found again. */
-    private static final class Shot {
-        private final Told told = new Told();
-        private final int[] corners = new int[3 * MOST_TRIANGLES];
-        private int triangles;
-
-        void take(Mesh mesh) {
-            told.copyFrom(mesh.told);
-            System.arraycopy(mesh.corners, 0, corners, 0, 3 * MOST_TRIANGLES);
-            triangles = mesh.triangles;
-        }
-
-        void give(Mesh mesh) {
-            mesh.become(told, corners, triangles);
-        }
-
-        void copyFrom(Shot other) {
-            told.copyFrom(other.told);
-            System.arraycopy(other.corners, 0, corners, 0, 3 * MOST_TRIANGLES);
-            triangles = other.triangles;
-        }
-
-        boolean had(int a, int b, int c) {
-            for (int t = 0; t < triangles; t++) {
-                if (corners[3 * t] == a && corners[3 * t + 1] == b && corners[3 * t + 2] == c) {
-                    return true;
-                }
-            }
-            return false;
-        }
-    }
-
-    /** The steps that can be taken back, the latest last; its shots are used again and again. */
+    /**
+     * The steps that can be taken back, the latest last; the top is the place above them, where an image
+     * has the state itself. Each state has its share of two rows, so that keeping one makes nothing.
+     */
     private static final class Past {
-        private final Shot[] shots = new Shot[MOST_STEPS];
+        private final int[] numbers = new int[MOST_KEPT * KEPT_NUMBERS];
+        private final long[] bits = new long[MOST_KEPT * KEPT_BITS];
         int count;
-
-        Past() {
-            for (int k = 0; k < MOST_STEPS; k++) {
-                shots[k] = new Shot();
-            }
-        }
 
         void push(Mesh mesh) {
             if (count >= MOST_STEPS) {
-                Shot oldest = shots[0];
-                for (int k = 0; k + 1 < MOST_STEPS; k++) {
-                    shots[k] = shots[k + 1];
-                }
-                shots[MOST_STEPS - 1] = oldest;
-                count = MOST_STEPS - 1;
+                forgetOldest();
             }
-            shots[count].take(mesh);
+            keepTop(mesh);
             count++;
+        }
+
+        private void forgetOldest() {
+            System.arraycopy(numbers, KEPT_NUMBERS, numbers, 0, (MOST_STEPS - 1) * KEPT_NUMBERS);
+            System.arraycopy(bits, KEPT_BITS, bits, 0, (MOST_STEPS - 1) * KEPT_BITS);
+            count = MOST_STEPS - 1;
         }
 
         boolean pop(Mesh mesh) {
@@ -1494,15 +1504,39 @@ public final class SquareMesh {
                 return false;
             }
             count--;
-            shots[count].give(mesh);
+            giveTop(mesh);
             return true;
         }
 
+        void keepTop(Mesh mesh) {
+            int at = count * KEPT_NUMBERS;
+            mesh.told.copyTo(numbers, at, bits, count * KEPT_BITS);
+            numbers[at + KEPT_TRIANGLES] = mesh.triangles;
+            System.arraycopy(mesh.corners, 0, numbers, at + KEPT_CORNERS, 3 * MOST_TRIANGLES);
+        }
+
+        void giveTop(Mesh mesh) {
+            int at = count * KEPT_NUMBERS;
+            mesh.told.copyFrom(numbers, at, bits, count * KEPT_BITS);
+            mesh.layAll(numbers, at + KEPT_CORNERS, numbers[at + KEPT_TRIANGLES]);
+        }
+
         void copyFrom(Past other) {
-            for (int k = 0; k < other.count; k++) {
-                shots[k].copyFrom(other.shots[k]);
-            }
+            System.arraycopy(other.numbers, 0, numbers, 0, other.count * KEPT_NUMBERS);
+            System.arraycopy(other.bits, 0, bits, 0, other.count * KEPT_BITS);
             count = other.count;
+        }
+
+        boolean topHad(int a, int b, int c) {
+            int at = count * KEPT_NUMBERS + KEPT_CORNERS;
+            int triangles = numbers[count * KEPT_NUMBERS + KEPT_TRIANGLES];
+            for (int t = 0; t < triangles && t < MOST_TRIANGLES; t++) {
+                int first = at + 3 * t;
+                if (numbers[first] == a && numbers[first + 1] == b && numbers[first + 2] == c) {
+                    return true;
+                }
+            }
+            return false;
         }
     }
 

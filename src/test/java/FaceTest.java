@@ -36,6 +36,7 @@ public final class FaceTest {
         names();
         words();
         lengths();
+        makings();
         Due.end("FaceTest");
     }
 
@@ -137,5 +138,26 @@ public final class FaceTest {
             }
         }
         Due.is("all methods end", started, 0);
+    }
+
+    // What is made can be counted from the text: by fields as they are declared, and in the open constructor.
+    private static void makings() throws IOException {
+        boolean inConstructor = false;
+        int count = 0;
+        int made = 0;
+        for (String line : Files.readAllLines(SOURCE)) {
+            count++;
+            inConstructor = line.equals("    public SquareMesh() {") || inConstructor && !line.equals("    }");
+            boolean comment = line.trim().startsWith("*") || line.trim().startsWith("/");
+            if (!comment && line.matches(".*\\b(new|clone|copyOf|copyOfRange|values)\\b.*")) {
+                boolean field = line.matches("        (private )?final (int|long)\\[\\] \\w+ = new \\w+\\[[^]]*\\];")
+                    || line.matches("        (private )?final (\\w+) \\w+ = new \\2\\(\\);");
+                boolean part = inConstructor && line.matches("        \\w+ = new \\w+(\\(\\)|\\[MOST\\]);");
+                Due.is("made once, at line " + count, field || part, true);
+                made++;
+            }
+            Due.is("no loop in the constructor, at line " + count, inConstructor && line.matches("\\s+(for|while|do)\\b.*"), false);
+        }
+        Due.is("some rows are made", made > 20, true);
     }
 }

@@ -434,6 +434,7 @@ public final class PromisesTest {
         Due.is("14 points", m.is(0), 4);
         Due.is("14 none more", m.undo(), -1);
         stepsOfHoles();
+        stepsOfTheLast();
         stepsOfPlaces();
         for (int k = 0; k < 25; k++) {
             m.point(k, 0);
@@ -456,6 +457,32 @@ public final class PromisesTest {
         m.undo();
         Due.is("14 the hole where it was", m.ofRegion(1, 3), 1);
         Due.is("14 no other hole", m.ofRegion(0, 3), 0);
+    }
+
+    // The last point, the last hole: all of both must come back.
+    private static void stepsOfTheLast() {
+        SquareMesh m = new SquareMesh();
+        m.point(-1000, 500);
+        m.point(1000, 500);
+        m.fix(4, 5);
+        for (int k = 6; k < 40; k++) {
+            m.point(20 * k, -k);
+        }
+        m.height(39, 39);
+        for (int k = 0; k < 7; k++) {
+            m.hole(-1, -1);
+        }
+        m.hole(0, 900);
+        int above = m.region(m.in(0, 900));
+        Due.is("14 the last hole", m.ofRegion(above, 3), 1);
+        m.drop(39);
+        m.undo();
+        Due.is("14 the last hole again", m.ofRegion(above, 3), 1);
+        Due.is("14 the other holes again", m.ofRegion(1 - above, 3), 7);
+        Due.is("14 the last point again", m.of(39, 0), 780);
+        Due.is("14 the last point's Y again", m.of(39, 1), -39);
+        Due.is("14 the last height again", m.of(39, 5), 39);
+        Due.is("14 the wall again", m.isFixed(4, 5), true);
     }
 
     private static void stepsOfPlaces() {
