@@ -698,42 +698,11 @@ public final class PromisesTest {
         Due.is("26 no step", m.walk(3, 0, 900, 1), 0);
         Due.is("26 on its edge", m.walk(0, 500, -250, 0), 0);
         Due.is("26 of several edges the first", m.walk(3, 0, -900, 1), 2);
-        walksThatNeverGoBack();
         Due.is("26 no such thing", m.walk(0, 0, 0, 3), -1);
         Due.is("26 below", m.walk(0, 0, 0, -1), -1);
         Due.is("26 no such triangle", m.walk(4, 0, 0, 0), -1);
         Due.is("26 triangle below", m.walk(-1, 0, 0, 0), -1);
         Due.is("26 out", m.walk(0, 1001, 0, 0), -1);
-    }
-
-    // Fixed edges make a wheel of triangles: round its middle one the walk would never end.
-    private static void walksThatNeverGoBack() {
-        SquareMesh m = new SquareMesh();
-        m.point(800, 500);
-        m.point(800, -400);
-        m.point(400, 500);
-        m.fix(3, 4);
-        m.fix(1, 6);
-        walks(m, 600, 300, new int[] {1, 7, 7, 0, 7, 2, 4, 7}, new int[] {6, 7, 7, 6, 7, 6, 6, 0});
-        // here 3 lies beside the wheel: from 3 over 4, 6, 2, 1, 0, 5, and 4 was walked through already
-        SquareMesh other = new SquareMesh();
-        other.point(-900, -500);
-        other.point(-500, -500);
-        other.point(-800, 200);
-        other.fix(1, 3);
-        other.fix(4, 1);
-        other.fix(6, 0);
-        other.fix(3, 5);
-        walks(other, -800, -300, new int[] {7, 2, 7, 7, 7, 0, 4, 7}, new int[] {6, 5, 6, 7, 6, 5, 5, 0});
-    }
-
-    private static void walks(SquareMesh m, int x, int y, int[] ends, int[] edges) {
-        int middle = m.in(x, y);
-        for (int t = 0; t < ends.length; t++) {
-            Due.is("26 round a wheel from " + t, m.walk(t, x, y, 0), ends[t]);
-            Due.is("26 edges round a wheel from " + t, m.walk(t, x, y, 1), edges[t]);
-            Due.is("26 in the middle from " + t, m.walk(t, x, y, 2), ends[t] == middle ? 1 : 0);
-        }
     }
 
     private static void stars() {
