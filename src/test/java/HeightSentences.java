@@ -57,6 +57,11 @@ final class HeightSentences {
         Due.is("a little below 0", down.heightAt(-999, -1000), -1);
         Due.is("half below 0", down.heightAt(0, -1000), -1);
         Due.is("just -1", down.heightAt(1000, -1000), -1);
+        // 4 is 1 above the side: (0, 1, 4) of 2000, 1999 and -1 of it
+        SquareMesh low = new SquareMesh();
+        low.point(0, -999);
+        Due.is("1999 of 2000", heights(low, 0, 1, 0, 0, 0).heightAt(999, -1000), 0);
+        Due.is("-1 of 2000", heights(low, 0, -1, 0, 0, 0).heightAt(-999, -1000), -1);
         SquareMesh steep = heights(new SquareMesh(), -9999, 9999, 0, 0);
         Due.is("from the least up", steep.heightAt(-999, -1000), -9990);
         Due.is("to the greatest", steep.heightAt(999, -1000), 9989);

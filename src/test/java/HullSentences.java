@@ -79,6 +79,8 @@ final class HullSentences {
         isHull("one just outside of a side", told(0, 0, 10, 0, 0, 10, 5, -1), 4, 7, 5, 6);
         isHull("one just inside of a side", told(0, 0, 10, 0, 0, 10, 5, 1), 4, 5, 6);
         isHull("one inside", told(0, 0, 10, 0, 0, 10, 2, 2), 4, 5, 6);
+        isHull("a DOUBLE AREA of 1", told(0, 0, 1, 1, 1, 0), 4, 6, 5);
+        isHull("a DOUBLE AREA of 1, the other way", told(0, 0, 1, 0, 1, 1), 4, 5, 6);
         isHull("on the first side, told ahead", told(5, 0, 0, 0, 10, 0, 0, 10), 5, 6, 7);
         isHull("on the last side, told ahead", told(0, 5, 0, 0, 10, 0, 0, 10), 5, 6, 7);
         int[] circle = {300, 400, -300, 400, -300, -400, 300, -400, 500, 0, 0, 500, -500, 0, 0, -500, 400, 300, -400, 300,

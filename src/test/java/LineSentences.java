@@ -149,6 +149,14 @@ final class LineSentences {
         Due.is("along two EDGES", line.crossed(4, 6), 0);
         line.move(5, 1, 100);
         Due.is("beside a POINT", line.crossed(4, 6) >= 0, true);
+        // 4 (0, 0), 5 (1, 0), 6 (0, 1), 7 (1, -1): all DOUBLE AREAS are 1
+        SquareMesh least = new SquareMesh();
+        least.point(0, 0);
+        least.point(1, 0);
+        least.point(0, 1);
+        least.point(1, -1);
+        Due.is("the least there can be", least.crossed(6, 7), 1);
+        Due.is("the least, the other way", least.crossed(7, 6), 1);
         Due.says(29, "CROSSED: how many EDGES.");
         SquareMesh plain = new SquareMesh();
         Due.is("crossed(1, 3)", plain.crossed(1, 3), 1);
@@ -191,6 +199,12 @@ final class LineSentences {
         Due.says(30, "SEES.");
         m.point(0, 1000);
         Due.is("on the BORDER", m.sees(3, 2), false);
+        SquareMesh near = new SquareMesh();
+        near.point(0, 0);
+        near.point(1, 0);
+        near.point(2, 0);
+        Due.is("one between, by 1 and 1", near.sees(4, 6), false);
+        Due.is("up to it by 1", near.sees(4, 5), true);
         Due.is("on the BORDER up to it", m.sees(3, 7), true);
         Due.is("of the square's own", m.sees(1, 3), true);
     }
@@ -206,6 +220,10 @@ final class LineSentences {
         Due.is("to its end", m.sees(5, 6), true);
         m.free(4, 6);
         Due.is("FREED", m.sees(5, 7), true);
+        SquareMesh first = Meshes.firstEdge(0, 0);
+        Due.is("over 0 to 4, the first EDGE of all", first.sees(5, 6), false);
+        Due.is("CROSSED by it", first.crossed(5, 6), 1);
+        Due.is("CUT there", first.cut(-400, -600, -600, -400), 1);
         SquareMesh end = new SquareMesh();
         end.point(0, 0);
         end.point(0, 100);

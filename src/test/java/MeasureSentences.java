@@ -44,6 +44,8 @@ final class MeasureSentences {
         Due.is("the shortest, 38 to 39", full.length(0), 1);
         // the first EDGE, 0 to 4, is the shortest; then 0 to 1 is the longest of all
         Due.is("the shortest, 0 to 4", told(-999, -1000).length(0), 1);
+        SquareMesh first = Meshes.firstEdge(-999, -999);
+        Due.is("the shortest, the first EDGE of all", first.length(0), 2);
         Due.says(35, "NONE for others.");
         for (int what : new int[] {2, 3, -1, MIN, MAX}) {
             Due.is("length(" + what + ")", m.length(what), -1);
@@ -94,6 +96,9 @@ final class MeasureSentences {
         m.move(4, 900, 0);
         m.move(6, -900, 0);
         Due.is("as they lie then", m.bent(0), -1);
+        SquareMesh first = Meshes.firstEdge(100, 100);
+        Due.is("the first EDGE of all", first.bent(0), 4);
+        Due.is("it alone", first.is(7), 1);
         Due.says(39, "of two TRIANGLES");
         Due.is("no BORDER one", told(0, 1000, 0, 999).is(7), 0);
     }

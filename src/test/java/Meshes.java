@@ -31,6 +31,16 @@ final class Meshes {
         return m;
     }
 
+    /** 4 fixed to 0; the sides of 0 go to 5 and 6 alone, so that 0 to 4 is the first of all EDGES. */
+    static SquareMesh firstEdge(int x, int y) {
+        SquareMesh m = new SquareMesh();
+        m.point(x, y);
+        m.point(0, -1000);
+        m.point(-1000, 0);
+        m.fix(0, 4);
+        return m;
+    }
+
     /** All 40 points: 4 .. 39 on a grid of six by six, 4 at (-250, -250), 5 at (-150, -250). */
     static SquareMesh full() {
         SquareMesh m = new SquareMesh();

@@ -34,6 +34,11 @@ final class PlaceSentences {
         for (int k = 0; k < due.length; k++) {
             Due.is("in(" + places[k][0] + ", " + places[k][1] + ")", m.in(places[k][0], places[k][1]), due[k]);
         }
+        // (4, 5, 6) is 1; just below it (4, 7, 5), just to the left (4, 6, 8)
+        SquareMesh small = small();
+        Due.is("outside by 1 below", small.in(1, -1), small.triangle(4, 7, 5));
+        Due.is("outside by 1 to the left", small.in(-1, 1), small.triangle(4, 6, 8));
+        Due.is("outside by 1 above", small.in(1, 1), firstWith(small, 1, 1));
         Due.says(24, "of several the first in order");
         Due.is("on an EDGE of both", new SquareMesh().in(3, 3), 0);
         Due.is("by one to the left", new SquareMesh().in(2, 3), 1);
@@ -41,6 +46,34 @@ final class PlaceSentences {
         Due.says(24, "IN: the TRIANGLE.");
         SquareMesh full = Meshes.full();
         Due.is("at the last POINT", full.in(250, 250), firstAt(full, 39));
+    }
+
+    /** 4 (0, 0), 5 (1, 0), 6 (0, 1): a TRIANGLE of DOUBLE AREA 1; 7 and 8 beyond two of its EDGES. */
+    private static SquareMesh small() {
+        SquareMesh m = new SquareMesh();
+        m.point(0, 0);
+        m.point(1, 0);
+        m.point(0, 1);
+        m.point(2, -3);
+        m.point(-3, 2);
+        return m;
+    }
+
+    // the first TRIANGLE by its corners' places alone
+    private static int firstWith(SquareMesh m, int x, int y) {
+        for (int t = 0; m.corner(t, 0) >= 0; t++) {
+            boolean out = false;
+            for (int k = 0; k < 3; k++) {
+                int a = m.corner(t, k);
+                int b = m.corner(t, (k + 1) % 3);
+                long turn = (long) (m.of(b, 0) - m.of(a, 0)) * (y - m.of(a, 1)) - (long) (m.of(b, 1) - m.of(a, 1)) * (x - m.of(a, 0));
+                out = out || turn < 0;
+            }
+            if (!out) {
+                return t;
+            }
+        }
+        return -1;
     }
 
     private static int firstAt(SquareMesh m, int p) {
@@ -146,6 +179,11 @@ final class PlaceSentences {
         walked(low, low.triangle(0, 4, 3), 900, 0, low.triangle(1, 2, 4), 3, 1);
         walked(low, low.triangle(1, 2, 4), -900, 0, low.triangle(0, 4, 3), 2, 1);
         Due.says(26, "outside of the TRIANGLE by it");
+        SquareMesh small = small();
+        int least = small.triangle(4, 5, 6);
+        walked(small, least, 1, -1, small.triangle(4, 7, 5), 1, 1);
+        walked(small, least, -1, 1, small.triangle(4, 6, 8), 1, 1);
+        walked(small, least, 0, 0, least, 0, 1);
         walked(left, left.triangle(2, 3, 4), 500, 500, left.triangle(2, 3, 4), 0, 1);
     }
 

@@ -164,6 +164,14 @@ final class PointSentences {
         m.free(4, 5);
         m.point(0, 0);
         Due.is("on an EDGE that isn't FIXED", m.is(3), 4);
+        SquareMesh least = new SquareMesh();
+        least.point(0, 0);
+        least.point(3, 1);
+        least.fix(4, 5);
+        least.point(2, 1);
+        least.point(1, 0);
+        Due.is("beside it by a DOUBLE AREA of 1, on both sides", least.isFixed(4, 5), true);
+        Due.is("is(3) then", least.is(3), 5);
         SquareMesh near = new SquareMesh();
         near.point(-1000, 999);
         near.point(999, -1000);
@@ -376,6 +384,12 @@ final class PointSentences {
         Due.is("fix(6, 4)", m.fix(6, 4), false);
         m.move(5, 1, 0);
         Due.is("beside the line", m.fix(4, 6), true);
+        SquareMesh near = new SquareMesh();
+        near.point(0, 0);
+        near.point(0, 1);
+        near.point(0, 2);
+        Due.is("one between, by 1 and 1", near.fix(4, 6), false);
+        Due.is("up to it by 1", near.fix(4, 5), true);
         SquareMesh on = new SquareMesh();
         on.point(0, 0);
         on.point(0, 100);

@@ -34,12 +34,14 @@ public final class RandomRunsTest {
     private final int step;
     private final int reach;
     private final String[] changes;
+    private final int oneOddIn;
     private final SquareMesh mesh = new SquareMesh();
     private final Model model = new Model();
     private final List<String> told = new ArrayList<>();
 
-    private RandomRunsTest(long seed, int step, int reach, String[] changes) {
+    private RandomRunsTest(long seed, int step, int reach, String[] changes, int oneOddIn) {
         this.changes = changes;
+        this.oneOddIn = oneOddIn;
         this.random = new Random(seed);
         this.step = step;
         this.reach = reach;
@@ -64,7 +66,9 @@ public final class RandomRunsTest {
         for (int run = first; run < first + runs; run++) {
             int[] grid = grids[run % grids.length];
             String[] changes = run % 5 == 4 ? FIXES : CHANGES;
-            if (!new RandomRunsTest(run * 7919L + 17, grid[0], grid[1], changes).go(run)) {
+            // in some runs every fourth argument is one that is refused, or the last that isn't
+            int oneOddIn = run % 6 == 5 ? 4 : 40;
+            if (!new RandomRunsTest(run * 7919L + 17, grid[0], grid[1], changes, oneOddIn).go(run)) {
                 break;
             }
         }
@@ -120,7 +124,7 @@ public final class RandomRunsTest {
     }
 
     private void add(char kind, List<Object> args) {
-        boolean odd = random.nextInt(40) == 0;
+        boolean odd = random.nextInt(oneOddIn) == 0;
         switch (kind) {
             case 'p': args.add(odd ? oddOne() : point()); break;
             case 'x': args.add(odd ? oddOne() : coordinate()); break;
@@ -142,7 +146,8 @@ public final class RandomRunsTest {
 
     private int oddOne() {
         int[] odd = {-1, -2, 0, 4, 10, 11, 20, 21, 39, 40, 64, 1000, 1001, -1000, -1001, 9999, 10000, -9999, -10000,
-            30046, 30047, 100000, Integer.MAX_VALUE, Integer.MIN_VALUE, 2, 3, 1 << 20};
+            30046, 30047, 100000, Integer.MAX_VALUE, Integer.MIN_VALUE, 2, 3, 1 << 20, 68, -60, 12, 13, 5, 6, 7, 8,
+            73, 74, Integer.MIN_VALUE + 4, 1, 999, -999};
         return odd[random.nextInt(odd.length)];
     }
 

@@ -197,6 +197,10 @@ final class RegionSentences {
         Due.is("round 4", m.passage(0, -500, 0, 500, -1), 2);
         Due.is("over the one that is open", m.passage(0, -500, 0, 500, 1), 2);
         Due.is("the long way", m.passage(-500, 0, 0, 500, -1), 3);
+        SquareMesh ring = Meshes.middle();
+        ring.fix(0, 4);
+        // from (0, 4, 3) to (1, 2, 4): TRIANGLE 0 is as near, but behind a FIXED EDGE
+        Due.is("not over the FIXED one to 0", ring.passage(-500, 0, 500, 0, 1), 3);
         Due.says(52, "PASSAGE: how many EDGES (i NONE); the i-th TRIANGLE (0: the first one).");
         int[] due = {1, 0, 2, 3, -1};
         for (int k = 0; k < due.length; k++) {
