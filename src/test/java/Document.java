@@ -13,7 +13,7 @@ final class Document {
     private static final Path PLACE = Path.of("../shared/DOC.md");
     private static final int PROMISES = 61;
 
-    // Words and ranges that name an edge of what is promised; "==== I." and the like are no words.
+    // Words and ranges that name an edge of what is promised.
     private static final Pattern EDGE = Pattern.compile("NONE|[Ff]alse|[Nn]one|-?\\d+ \\.\\. \\d+|\\(0 \\.\\.\\)|-100000"
         + "|-2:|for others|at first|at most|at once|at one\\b|out of the square|just|least|like ones|latest|earliest"
         + "|between|downward|its own|that is all\\b|mod \\d+|always|once|not FIXED yet|in any order|no BORDER|no STEP"

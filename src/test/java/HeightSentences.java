@@ -70,8 +70,7 @@ final class HeightSentences {
     private static void heightAtOut() {
         Due.says(48, "-100000: it is out of the square.");
         SquareMesh m = heights(Meshes.middle(), 1, 2, 3, 4, 5);
-        int[][] out = {{1001, 0}, {-1001, 0}, {0, 1001}, {0, -1001}, {MIN, 0}, {0, MIN}, {MAX, 0}, {0, MAX}, {MAX, MIN}};
-        for (int[] place : out) {
+        for (int[] place : Meshes.OUT) {
             Due.is("heightAt(" + place[0] + ", " + place[1] + ")", m.heightAt(place[0], place[1]), -100000);
         }
     }

@@ -20,14 +20,6 @@ final class HullSentences {
         wouldChangesNothing();
     }
 
-    private static SquareMesh told(int... places) {
-        SquareMesh m = new SquareMesh();
-        for (int k = 0; k + 1 < places.length; k += 2) {
-            m.point(places[k], places[k + 1]);
-        }
-        return m;
-    }
-
     private static void isHull(String name, SquareMesh m, int... due) {
         Due.is(name + ": hull(-1)", m.hull(-1), due.length);
         for (int k = 0; k < due.length; k++) {
@@ -42,12 +34,12 @@ final class HullSentences {
         SquareMesh full = Meshes.full();
         isHull("a grid of all", full, 4, 9, 39, 34);
         Due.says(53, "(one or two POINTS, or all on one straight line: the ends)");
-        isHull("one", told(7, 7), 4);
-        isHull("one in a corner", told(999, 1000), 4);
-        isHull("two", told(7, 7, 8, 9), 4, 5);
-        isHull("two, the one AHEAD told last", told(8, 9, 7, 7), 5, 4);
-        isHull("two of like X", told(7, 9, 7, 8), 5, 4);
-        SquareMesh m = told(1, 1, 2, 2, 3, 1);
+        isHull("one", Meshes.told(7, 7), 4);
+        isHull("one in a corner", Meshes.told(999, 1000), 4);
+        isHull("two", Meshes.told(7, 7, 8, 9), 4, 5);
+        isHull("two, the one AHEAD told last", Meshes.told(8, 9, 7, 7), 5, 4);
+        isHull("two of like X", Meshes.told(7, 9, 7, 8), 5, 4);
+        SquareMesh m = Meshes.told(1, 1, 2, 2, 3, 1);
         m.drop(4);
         m.drop(5);
         isHull("one that is left", m, 6);
@@ -57,11 +49,11 @@ final class HullSentences {
 
     private static void hullOfALine() {
         Due.says(53, "all on one straight line: the ends");
-        isHull("to the right", told(0, 0, 30, 0, 10, 0), 4, 5);
-        isHull("up", told(0, 10, 0, 20, 0, -10), 6, 5);
-        isHull("slanting", told(10, 20, 20, 40, 0, 0, 30, 60), 6, 7);
-        isHull("slanting down", told(10, -1, 0, 0, 20, -2), 5, 6);
-        isHull("but one", told(10, 20, 20, 40, 0, 0, 30, 59), 6, 7, 5);
+        isHull("to the right", Meshes.told(0, 0, 30, 0, 10, 0), 4, 5);
+        isHull("up", Meshes.told(0, 10, 0, 20, 0, -10), 6, 5);
+        isHull("slanting", Meshes.told(10, 20, 20, 40, 0, 0, 30, 60), 6, 7);
+        isHull("slanting down", Meshes.told(10, -1, 0, 0, 20, -2), 5, 6);
+        isHull("but one", Meshes.told(10, 20, 20, 40, 0, 0, 30, 59), 6, 7, 5);
         SquareMesh row = new SquareMesh();
         for (int k = 0; k < 36; k++) {
             row.point(5 * (k * 7 % 36), 2 * (k * 7 % 36));
@@ -72,34 +64,34 @@ final class HullSentences {
     private static void hull() {
         Due.says(53, "those at corners of the least convex shape that has all of them (none on its sides between), against the "
             + "clock, the one AHEAD of all first");
-        isHull("three", told(0, 0, 10, 0, 0, 10), 4, 5, 6);
-        isHull("three, told with the clock", told(0, 0, 0, 10, 10, 0), 4, 6, 5);
-        isHull("one on a side", told(0, 0, 10, 0, 0, 10, 5, 0), 4, 5, 6);
-        isHull("one on each side", told(0, 0, 10, 0, 0, 10, 5, 0, 5, 5, 0, 5), 4, 5, 6);
-        isHull("one just outside of a side", told(0, 0, 10, 0, 0, 10, 5, -1), 4, 7, 5, 6);
-        isHull("one just inside of a side", told(0, 0, 10, 0, 0, 10, 5, 1), 4, 5, 6);
-        isHull("one inside", told(0, 0, 10, 0, 0, 10, 2, 2), 4, 5, 6);
-        isHull("a DOUBLE AREA of 1", told(0, 0, 1, 1, 1, 0), 4, 6, 5);
-        isHull("a DOUBLE AREA of 1, the other way", told(0, 0, 1, 0, 1, 1), 4, 5, 6);
-        isHull("on the first side, told ahead", told(5, 0, 0, 0, 10, 0, 0, 10), 5, 6, 7);
-        isHull("on the last side, told ahead", told(0, 5, 0, 0, 10, 0, 0, 10), 5, 6, 7);
+        isHull("three", Meshes.told(0, 0, 10, 0, 0, 10), 4, 5, 6);
+        isHull("three, told with the clock", Meshes.told(0, 0, 0, 10, 10, 0), 4, 6, 5);
+        isHull("one on a side", Meshes.told(0, 0, 10, 0, 0, 10, 5, 0), 4, 5, 6);
+        isHull("one on each side", Meshes.told(0, 0, 10, 0, 0, 10, 5, 0, 5, 5, 0, 5), 4, 5, 6);
+        isHull("one just outside of a side", Meshes.told(0, 0, 10, 0, 0, 10, 5, -1), 4, 7, 5, 6);
+        isHull("one just inside of a side", Meshes.told(0, 0, 10, 0, 0, 10, 5, 1), 4, 5, 6);
+        isHull("one inside", Meshes.told(0, 0, 10, 0, 0, 10, 2, 2), 4, 5, 6);
+        isHull("a DOUBLE AREA of 1", Meshes.told(0, 0, 1, 1, 1, 0), 4, 6, 5);
+        isHull("a DOUBLE AREA of 1, the other way", Meshes.told(0, 0, 1, 0, 1, 1), 4, 5, 6);
+        isHull("on the first side, told ahead", Meshes.told(5, 0, 0, 0, 10, 0, 0, 10), 5, 6, 7);
+        isHull("on the last side, told ahead", Meshes.told(0, 5, 0, 0, 10, 0, 0, 10), 5, 6, 7);
         int[] circle = {300, 400, -300, 400, -300, -400, 300, -400, 500, 0, 0, 500, -500, 0, 0, -500, 400, 300, -400, 300,
             -400, -300, 400, -300, 0, 0};
-        isHull("all on a circle but one", told(circle), 10, 14, 6, 11, 7, 15, 8, 12, 4, 9, 5, 13);
+        isHull("all on a circle but one", Meshes.told(circle), 10, 14, 6, 11, 7, 15, 8, 12, 4, 9, 5, 13);
     }
 
     private static void hullAhead() {
         Due.says(53, "the one AHEAD of all first");
-        isHull("of like X the lesser Y", told(0, 10, 10, 5, 0, 0), 6, 5, 4);
-        isHull("the lesser X, of greater Y", told(10, 0, 0, 10, 10, 10), 5, 4, 6);
-        SquareMesh m = told(0, 0, 10, 0, 0, 10);
+        isHull("of like X the lesser Y", Meshes.told(0, 10, 10, 5, 0, 0), 6, 5, 4);
+        isHull("the lesser X, of greater Y", Meshes.told(10, 0, 0, 10, 10, 10), 5, 4, 6);
+        SquareMesh m = Meshes.told(0, 0, 10, 0, 0, 10);
         m.move(4, 11, 11);
         isHull("moved", m, 6, 5, 4);
     }
 
     private static void hullRefused() {
         Due.says(53, "HULL: how many (i NONE), the i-th. NONE: there is none such.");
-        SquareMesh m = told(0, 0, 10, 0, 0, 10, 2, 2);
+        SquareMesh m = Meshes.told(0, 0, 10, 0, 0, 10, 2, 2);
         for (int i : new int[] {3, 4, -2, 39, 40, MIN, MAX}) {
             Due.is("hull(" + i + ")", m.hull(i), -1);
         }
@@ -138,9 +130,10 @@ final class HullSentences {
     private static void wouldPointRefused() {
         Due.says(54, "NONE: it can't be.");
         SquareMesh m = Meshes.four();
-        int[][] places = {{1001, 0}, {-1001, 0}, {0, 1001}, {0, -1001}, {MIN, 0}, {0, MIN}, {MAX, 0}, {0, MAX}, {100, 100},
-            {1000, 1000}, {-1000, -1000}};
-        for (int[] place : places) {
+        for (int[] place : Meshes.OUT) {
+            Due.is("wouldPoint(" + place[0] + ", " + place[1] + ")", m.wouldPoint(place[0], place[1]), -1);
+        }
+        for (int[] place : new int[][] {{100, 100}, {1000, 1000}, {-1000, -1000}}) {
             Due.is("wouldPoint(" + place[0] + ", " + place[1] + ")", m.wouldPoint(place[0], place[1]), -1);
         }
         SquareMesh full = Meshes.full();

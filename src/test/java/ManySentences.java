@@ -427,8 +427,7 @@ final class ManySentences {
         SquareMesh m = Meshes.halves();
         m.hole(500, 500);
         String state = Meshes.state(m);
-        int[][] places = {{1001, 0}, {-1001, 0}, {0, 1001}, {0, -1001}, {MIN, 0}, {0, MIN}, {MAX, 0}, {0, MAX}};
-        for (int[] place : places) {
+        for (int[] place : Meshes.OUT) {
             Due.is("hole(" + place[0] + ", " + place[1] + ")", m.hole(place[0], place[1]), -1);
         }
         Due.same("nothing is changed", Meshes.state(m), state);

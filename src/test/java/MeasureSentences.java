@@ -20,14 +20,6 @@ final class MeasureSentences {
         meanOfMany();
     }
 
-    private static SquareMesh told(int... places) {
-        SquareMesh m = new SquareMesh();
-        for (int k = 0; k + 1 < places.length; k += 2) {
-            m.point(places[k], places[k + 1]);
-        }
-        return m;
-    }
-
     private static void length() {
         Due.says(35, "Square of the length of the shortest EDGE (0), of the longest one (1).");
         SquareMesh plain = new SquareMesh();
@@ -35,7 +27,7 @@ final class MeasureSentences {
         Due.is("the longest there can be", plain.length(1), 8000000);
         plain.fix(1, 3);
         Due.is("the last EDGES", plain.length(1), 8000000);
-        SquareMesh m = told(0, 0, 1, 0);
+        SquareMesh m = Meshes.told(0, 0, 1, 0);
         Due.is("the shortest there can be", m.length(0), 1);
         Due.is("the longest then", m.length(1), 4000000);
         // the last EDGE, of the last two POINTS, is the shortest
@@ -43,7 +35,7 @@ final class MeasureSentences {
         full.move(39, 151, 250);
         Due.is("the shortest, 38 to 39", full.length(0), 1);
         // the first EDGE, 0 to 4, is the shortest; then 0 to 1 is the longest of all
-        Due.is("the shortest, 0 to 4", told(-999, -1000).length(0), 1);
+        Due.is("the shortest, 0 to 4", Meshes.told(-999, -1000).length(0), 1);
         SquareMesh first = Meshes.firstEdge(-999, -999);
         Due.is("the shortest, the first EDGE of all", first.length(0), 2);
         Due.says(35, "NONE for others.");
@@ -68,7 +60,7 @@ final class MeasureSentences {
             full.move(4 + k, k < 35 ? 950 - k : 0, k < 35 ? 1000 : 0);
         }
         Due.is("most, the last POINT", full.busiest(0), 39);
-        SquareMesh last = told(0, 1000);
+        SquareMesh last = Meshes.told(0, 1000);
         // 0 has 1, 4, 3, and 1 as many
         Due.is("fewest, behind 0 and 1", last.busiest(1), 2);
         Due.says(36, "NONE for others.");
@@ -81,11 +73,11 @@ final class MeasureSentences {
         Due.says(39, "BENT: EDGES that are FIXED, of two TRIANGLES, and would not be allowed if they weren't (as they lie).");
         // on one circle 4 to 6 is allowed; 7 outside of it: 4 to 6; 7 inside of it: 5 to 7
         for (int by = -1; by < 2; by++) {
-            SquareMesh one = told(-300, -400, 300, -400, 300, 400, -300 + by, 400);
+            SquareMesh one = Meshes.told(-300, -400, 300, -400, 300, 400, -300 + by, 400);
             one.fix(4, 6);
             Due.is("4 to 6, 7 by " + by, one.bent(0), by > 0 ? 406 : -1);
             Due.is("how many", one.is(7), by > 0 ? 1 : 0);
-            SquareMesh other = told(-300, -400, 300, -400, 300, 400, -300 + by, 400);
+            SquareMesh other = Meshes.told(-300, -400, 300, -400, 300, 400, -300 + by, 400);
             other.fix(5, 7);
             Due.is("5 to 7, 7 by " + by, other.bent(0), by > 0 ? -1 : 507);
             Due.is("how many others", other.is(7), by > 0 ? 0 : 1);
@@ -100,13 +92,13 @@ final class MeasureSentences {
         Due.is("the first EDGE of all", first.bent(0), 4);
         Due.is("it alone", first.is(7), 1);
         Due.says(39, "of two TRIANGLES");
-        Due.is("no BORDER one", told(0, 1000, 0, 999).is(7), 0);
+        Due.is("no BORDER one", Meshes.told(0, 1000, 0, 999).is(7), 0);
     }
 
     private static void bentInOrder() {
         Due.says(39, "The BENT ones: the i-th (by the lesser, then the greater number): 100 times the lesser and the greater.");
         // a grid by 100, each square with its line from the lesser X and Y on; 4 has two that go across
-        SquareMesh m = told(0, 100, 100, 0, -100, 200, 0, 0, 100, 100, -100, 100, 0, 200, 200, 100, 200, 0);
+        SquareMesh m = Meshes.told(0, 100, 100, 0, -100, 200, 0, 0, 100, 100, -100, 100, 0, 200, 200, 100, 200, 0);
         m.fix(6, 4);
         m.fix(8, 12);
         Due.is("4 to 6", m.bent(0), 406);
@@ -142,16 +134,16 @@ final class MeasureSentences {
         // (0, 1, 4), (0, 4, 3), (1, 2, 4), (2, 3, 4): half the DOUBLE AREA is 1000 and what is by one more or less
         int[][] places = {{0, -1}, {-1, 0}, {1, 0}, {0, 1}};
         for (int t = 0; t < 4; t++) {
-            Due.is("by one, " + t, told(places[t]).thinnest(), t);
+            Due.is("by one, " + t, Meshes.told(places[t]).thinnest(), t);
         }
         // of like shape, 200 by 40000 and 800 by 160000
         int[] small = {-100, -300, 100, -300, 0, -299, -200, 300, 200, 300, 0, 302};
-        SquareMesh alike = told(small);
+        SquareMesh alike = Meshes.told(small);
         alike.fix(4, 5);
         alike.fix(7, 8);
         Due.is("of like ones, the lesser one first", alike.thinnest(), alike.triangle(4, 5, 6));
         int[] great = {-200, 300, 200, 300, 0, 302, -100, -300, 100, -300, 0, -299};
-        alike = told(great);
+        alike = Meshes.told(great);
         alike.fix(4, 5);
         alike.fix(7, 8);
         Due.is("of like ones, the greater one first", alike.thinnest(), alike.triangle(4, 5, 6));
@@ -284,7 +276,7 @@ final class MeasureSentences {
         Due.says(58, "Mean of squares of lengths of all EDGES as doubles (together a whole number, by how many): its bits.");
         Due.is("a whole one", new SquareMesh().mean(), Double.doubleToLongBits(4800000.0));
         Due.is("of 8", Meshes.middle().mean(), Double.doubleToLongBits(24000000.0 / 8));
-        Due.is("a fraction of 2", told(1, 0).mean(), Double.doubleToLongBits(bySquares(told(1, 0)) / 8.0));
+        Due.is("a fraction of 2", Meshes.told(1, 0).mean(), Double.doubleToLongBits(bySquares(Meshes.told(1, 0)) / 8.0));
         // all POINTS on the upper side: 77 EDGES
         SquareMesh side = new SquareMesh();
         for (int k = 0; k < 6; k++) {

@@ -32,28 +32,20 @@ final class MeshSentences {
         changesNothing();
     }
 
-    private static SquareMesh told(int... places) {
-        SquareMesh m = new SquareMesh();
-        for (int k = 0; k + 1 < places.length; k += 2) {
-            m.point(places[k], places[k + 1]);
-        }
-        return m;
-    }
-
     private static void circles() {
         Due.says(2, "d is outside of the circle through a, b, c; or on it, and of a, b, c, d the one that is AHEAD of all "
             + "others is a or b");
         // 4 (-300, -400), 5 (300, -400), 6 (300, 400), 7 (-300, 400); 4 is AHEAD
-        Due.is("all on one circle", told(-300, -400, 300, -400, 300, 400, -300, 400).isEdge(4, 6), true);
+        Due.is("all on one circle", Meshes.told(-300, -400, 300, -400, 300, 400, -300, 400).isEdge(4, 6), true);
         int[][] outside = {{-1, 0}, {1, 0}, {1, 0}, {-1, 0}};
         for (int p = 0; p < 4; p++) {
             int[] places = {-300, -400, 300, -400, 300, 400, -300, 400};
             places[2 * p] += outside[p][0];
-            Due.is((4 + p) + " outside", told(places).isEdge(4, 6), p % 2 == 1);
-            Due.is((4 + p) + " outside, the other", told(places).isEdge(5, 7), p % 2 == 0);
+            Due.is((4 + p) + " outside", Meshes.told(places).isEdge(4, 6), p % 2 == 1);
+            Due.is((4 + p) + " outside, the other", Meshes.told(places).isEdge(5, 7), p % 2 == 0);
             places[2 * p] -= 2 * outside[p][0];
-            Due.is((4 + p) + " inside", told(places).isEdge(4, 6), p % 2 == 0);
-            Due.is((4 + p) + " inside, the other", told(places).isEdge(5, 7), p % 2 == 1);
+            Due.is((4 + p) + " inside", Meshes.told(places).isEdge(4, 6), p % 2 == 0);
+            Due.is((4 + p) + " inside, the other", Meshes.told(places).isEdge(5, 7), p % 2 == 1);
         }
     }
 
@@ -70,11 +62,11 @@ final class MeshSentences {
 
     private static void aheadOfAll() {
         Due.says(2, "AHEAD of another POINT is one with the lesser X, of like X the lesser Y.");
-        Due.is("the lesser X", told(0, -100, 100, 0, 0, 100, -100, 0).isEdge(7, 5), true);
-        Due.is("not the lesser Y", told(0, -100, 100, 0, 0, 100, -100, 0).isEdge(4, 6), false);
-        Due.is("of like X the lesser Y", told(-100, 100, 100, 100, 100, -100, -100, -100).isEdge(7, 5), true);
-        Due.is("not the greater Y", told(-100, 100, 100, 100, 100, -100, -100, -100).isEdge(4, 6), false);
-        SquareMesh round = told(CIRCLE);
+        Due.is("the lesser X", Meshes.told(0, -100, 100, 0, 0, 100, -100, 0).isEdge(7, 5), true);
+        Due.is("not the lesser Y", Meshes.told(0, -100, 100, 0, 0, 100, -100, 0).isEdge(4, 6), false);
+        Due.is("of like X the lesser Y", Meshes.told(-100, 100, 100, 100, 100, -100, -100, -100).isEdge(7, 5), true);
+        Due.is("not the greater Y", Meshes.told(-100, 100, 100, 100, 100, -100, -100, -100).isEdge(4, 6), false);
+        SquareMesh round = Meshes.told(CIRCLE);
         // (-500, 0) is point 10
         for (int p = 4; p < 16; p++) {
             Due.is("from the one AHEAD to " + p, round.isEdge(10, p), p != 10);
@@ -88,7 +80,7 @@ final class MeshSentences {
 
     private static void oneMeshAlone() {
         Due.says(2, "There is just one such MESH.");
-        SquareMesh m = told(CIRCLE);
+        SquareMesh m = Meshes.told(CIRCLE);
         SquareMesh other = new SquareMesh();
         for (int k = CIRCLE.length - 2; k >= 0; k -= 2) {
             other.point(CIRCLE[k], CIRCLE[k + 1]);
@@ -115,7 +107,7 @@ final class MeshSentences {
             + "POINT inside of one or on an EDGE of one but at its corners; each FIXED EDGE is an EDGE of some TRIANGLE.");
         whole("new", new SquareMesh(), 4);
         whole("all on a grid", Meshes.full(), 4);
-        whole("on a circle", told(CIRCLE), 4);
+        whole("on a circle", Meshes.told(CIRCLE), 4);
         whole("halves", Meshes.halves(), 6);
         SquareMesh line = new SquareMesh();
         for (int k = 0; k < 18; k++) {
@@ -163,7 +155,7 @@ final class MeshSentences {
     private static void order() {
         Due.says(18, "A TRIANGLE is told by its corners against the clock (X to the right, Y up), the least number first.");
         // 4 (0, 0), 5 (0, -500): of 0, 4, 5 the one with the clock is 0, 4, 5
-        SquareMesh m = told(0, 0, 0, -500);
+        SquareMesh m = Meshes.told(0, 0, 0, -500);
         int[] corners = {0, 1, 5, 0, 4, 3, 0, 5, 4, 1, 2, 4, 1, 4, 5, 2, 3, 4};
         for (int k = 0; k < corners.length; k++) {
             Due.is("corner(" + k / 3 + ", " + k % 3 + ")", m.corner(k / 3, k % 3), corners[k]);
@@ -219,7 +211,7 @@ final class MeshSentences {
         Due.is("RIGHT by none", m.is(11), 0);
         m.move(4, 0, -1);
         Due.is("BLUNT by one below", m.is(10), 1);
-        SquareMesh side = told(-1000, 0);
+        SquareMesh side = Meshes.told(-1000, 0);
         // 0, 1, 4 and 3, 4, 2 have right angles; 1, 2, 4 none
         Due.is("RIGHT of three", side.is(11), 2);
         Due.is("BLUNT of three", side.is(10), 0);
@@ -259,7 +251,7 @@ final class MeshSentences {
 
     private static void ofBorder() {
         Due.says(16, "4 whether it lies on the BORDER (1, 0)");
-        SquareMesh m = told(999, 0, -999, 1, 2, 999, 3, -999, 1000, 4, -1000, 5, 6, 1000, 7, -1000);
+        SquareMesh m = Meshes.told(999, 0, -999, 1, 2, 999, 3, -999, 1000, 4, -1000, 5, 6, 1000, 7, -1000);
         for (int p = 0; p < 12; p++) {
             Due.is("of(" + p + ", 4)", m.of(p, 4), p < 4 || p > 7 ? 1 : 0);
         }
@@ -358,11 +350,11 @@ final class MeshSentences {
 
     private static void area() {
         Due.says(20, "DOUBLE AREA: a whole number.");
-        SquareMesh small = told(0, 0, 1, 0, 0, 1);
+        SquareMesh small = Meshes.told(0, 0, 1, 0, 0, 1);
         Due.is("the least", small.area(small.triangle(4, 5, 6)), 1);
         Due.is("the greatest", new SquareMesh().area(0), 4000000);
         Due.says(20, "DOUBLE AREA of the i-th TRIANGLE.");
-        SquareMesh m = told(0, 500);
+        SquareMesh m = Meshes.told(0, 500);
         Due.is("area(0)", m.area(0), 3000000);
         Due.is("area(3)", m.area(3), 1000000);
         Due.says(20, "NONE: there is none such.");
@@ -376,7 +368,7 @@ final class MeshSentences {
 
     private static void triangle() {
         Due.says(21, "Which TRIANGLE has three POINTS as corners, in any order.");
-        SquareMesh m = told(0, 500);
+        SquareMesh m = Meshes.told(0, 500);
         int[][] orders = {{2, 3, 4}, {2, 4, 3}, {3, 2, 4}, {3, 4, 2}, {4, 2, 3}, {4, 3, 2}};
         for (int[] o : orders) {
             Due.is("triangle(" + o[0] + ", " + o[1] + ", " + o[2] + ")", m.triangle(o[0], o[1], o[2]), 3);
@@ -384,7 +376,7 @@ final class MeshSentences {
         Due.says(21, "NONE: none, and for others.");
         Due.is("three POINTS without EDGES", m.triangle(0, 1, 2), -1);
         // three edges round point 4 are no TRIANGLE
-        SquareMesh round = told(0, 0, -300, -300, 300, -300, 0, 300);
+        SquareMesh round = Meshes.told(0, 0, -300, -300, 300, -300, 0, 300);
         Due.is("EDGES all round", round.isEdge(5, 6) && round.isEdge(6, 7) && round.isEdge(5, 7), true);
         Due.is("no TRIANGLE", round.triangle(5, 6, 7), -1);
         Due.is("like ones", m.triangle(4, 4, 0), -1);

@@ -2,15 +2,24 @@
 final class Meshes {
     static final int MIN = Integer.MIN_VALUE;
     static final int MAX = Integer.MAX_VALUE;
+    static final int[][] OUT = {{1001, 0}, {-1001, 0}, {0, 1001}, {0, -1001}, {1001, 1001}, {-1001, -1001},
+        {MIN, 0}, {0, MIN}, {MAX, 0}, {0, MAX}, {MIN, MAX}, {MAX, MAX}, {1 << 16, 1 << 16}};
 
     private Meshes() {
     }
 
+    /** Points told at these places, X and Y by turns. */
+    static SquareMesh told(int... places) {
+        SquareMesh m = new SquareMesh();
+        for (int k = 0; k + 1 < places.length; k += 2) {
+            m.point(places[k], places[k + 1]);
+        }
+        return m;
+    }
+
     /** Point 4 in the middle: (0, 1, 4), (0, 4, 3), (1, 2, 4), (2, 3, 4). */
     static SquareMesh middle() {
-        SquareMesh m = new SquareMesh();
-        m.point(0, 0);
-        return m;
+        return told(0, 0);
     }
 
     /** Point 4 in the middle; a fixed line 3, 4, 1: two regions, each of two triangles. */
@@ -23,20 +32,12 @@ final class Meshes {
 
     /** Points 4 .. 7 at (100, 100), (-100, 100), (-100, -100), (100, -100), on one circle. */
     static SquareMesh four() {
-        SquareMesh m = new SquareMesh();
-        m.point(100, 100);
-        m.point(-100, 100);
-        m.point(-100, -100);
-        m.point(100, -100);
-        return m;
+        return told(100, 100, -100, 100, -100, -100, 100, -100);
     }
 
     /** 4 fixed to 0; the sides of 0 go to 5 and 6 alone, so that 0 to 4 is the first of all EDGES. */
     static SquareMesh firstEdge(int x, int y) {
-        SquareMesh m = new SquareMesh();
-        m.point(x, y);
-        m.point(0, -1000);
-        m.point(-1000, 0);
+        SquareMesh m = told(x, y, 0, -1000, -1000, 0);
         m.fix(0, 4);
         return m;
     }

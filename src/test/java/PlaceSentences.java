@@ -2,8 +2,6 @@
 final class PlaceSentences {
     private static final int MIN = Meshes.MIN;
     private static final int MAX = Meshes.MAX;
-    private static final int[][] OUT = {{1001, 0}, {-1001, 0}, {0, 1001}, {0, -1001}, {1001, 1001}, {-1001, -1001},
-        {MIN, 0}, {0, MIN}, {MAX, 0}, {0, MAX}, {MIN, MAX}, {MAX, MAX}, {1 << 16, 1 << 16}};
 
     private PlaceSentences() {
     }
@@ -50,13 +48,7 @@ final class PlaceSentences {
 
     /** 4 (0, 0), 5 (1, 0), 6 (0, 1): a TRIANGLE of DOUBLE AREA 1; 7 and 8 beyond two of its EDGES. */
     private static SquareMesh small() {
-        SquareMesh m = new SquareMesh();
-        m.point(0, 0);
-        m.point(1, 0);
-        m.point(0, 1);
-        m.point(2, -3);
-        m.point(-3, 2);
-        return m;
+        return Meshes.told(0, 0, 1, 0, 0, 1, 2, -3, -3, 2);
     }
 
     // the first TRIANGLE by its corners' places alone
@@ -87,11 +79,11 @@ final class PlaceSentences {
     private static void inOut() {
         Due.says(24, "NONE: the place is out of the square.");
         SquareMesh m = Meshes.middle();
-        for (int[] place : OUT) {
+        for (int[] place : Meshes.OUT) {
             Due.is("in(" + place[0] + ", " + place[1] + ")", m.in(place[0], place[1]), -1);
         }
         Due.says(25, "0 out of the square");
-        for (int[] place : OUT) {
+        for (int[] place : Meshes.OUT) {
             Due.is("lies(" + place[0] + ", " + place[1] + ")", m.lies(place[0], place[1]), 0);
         }
     }
@@ -219,7 +211,7 @@ final class PlaceSentences {
     private static void walkRefused() {
         Due.says(26, "NONE for others (a place out of the square, too).");
         SquareMesh m = Meshes.middle();
-        for (int[] place : OUT) {
+        for (int[] place : Meshes.OUT) {
             for (int what = 0; what < 3; what++) {
                 Due.is("walk(0, " + place[0] + ", " + place[1] + ", " + what + ")", m.walk(0, place[0], place[1], what), -1);
             }
@@ -249,7 +241,7 @@ final class PlaceSentences {
         Due.is("the farthest there can be", new SquareMesh().nearest(1, 0), 1);
         Due.is("the last POINT", Meshes.full().nearest(251, 251), 39);
         Due.says(34, "NONE: the place is out of the square.");
-        for (int[] place : OUT) {
+        for (int[] place : Meshes.OUT) {
             Due.is("nearest(" + place[0] + ", " + place[1] + ")", m.nearest(place[0], place[1]), -1);
         }
     }
@@ -280,7 +272,7 @@ final class PlaceSentences {
         for (int i : new int[] {4, 5, -1, -2, MIN, MAX}) {
             Due.is("circle(" + i + ", 0, 0)", m.circle(i, 0, 0), -2);
         }
-        for (int[] place : OUT) {
+        for (int[] place : Meshes.OUT) {
             Due.is("circle(0, " + place[0] + ", " + place[1] + ")", m.circle(0, place[0], place[1]), -2);
         }
         SquareMesh full = Meshes.full();
@@ -314,7 +306,7 @@ final class PlaceSentences {
     private static void cutRefused() {
         Due.says(45, "NONE: a place is out of the square.");
         SquareMesh m = Meshes.middle();
-        for (int[] place : OUT) {
+        for (int[] place : Meshes.OUT) {
             Due.is("cut(" + place[0] + ", " + place[1] + ", 0, 1)", m.cut(place[0], place[1], 0, 1), -1);
             Due.is("cut(0, 1, " + place[0] + ", " + place[1] + ")", m.cut(0, 1, place[0], place[1]), -1);
         }

@@ -1,8 +1,5 @@
 /** What the document says of points told, taken out and moved, and of edges fixed and freed (promises 1 to 6). */
 final class PointSentences {
-    private static final int MIN = Meshes.MIN;
-    private static final int MAX = Meshes.MAX;
-
     private PointSentences() {
     }
 
@@ -213,9 +210,10 @@ final class PointSentences {
         SquareMesh m = Meshes.four();
         m.fix(4, 6);
         String state = Meshes.state(m);
-        int[][] places = {{1001, 0}, {-1001, 0}, {0, 1001}, {0, -1001}, {1001, 1001}, {MIN, 0}, {0, MIN}, {MAX, 0},
-            {0, MAX}, {MIN, MIN}, {MAX, MAX}, {1 << 16, 1 << 16}, {100, 100}, {1000, 1000}, {-1000, 1000}};
-        for (int[] place : places) {
+        for (int[] place : Meshes.OUT) {
+            Due.is("point(" + place[0] + ", " + place[1] + ")", m.point(place[0], place[1]), -1);
+        }
+        for (int[] place : new int[][] {{100, 100}, {1000, 1000}, {-1000, 1000}}) {
             Due.is("point(" + place[0] + ", " + place[1] + ")", m.point(place[0], place[1]), -1);
         }
         Due.same("nothing is changed", Meshes.state(m), state);
@@ -347,8 +345,7 @@ final class PointSentences {
         for (int p : new int[] {0, 1, 2, 3, 5, 6, 8}) {
             Due.is("move(" + p + ", 1, 1)", m.move(p, 1, 1), false);
         }
-        int[][] places = {{1001, 0}, {-1001, 0}, {0, 1001}, {0, -1001}, {MIN, 0}, {0, MAX}, {MAX, MIN}};
-        for (int[] place : places) {
+        for (int[] place : Meshes.OUT) {
             Due.is("move(4, " + place[0] + ", " + place[1] + ")", m.move(4, place[0], place[1]), false);
         }
         Due.same("nothing is changed", Meshes.state(m), state);

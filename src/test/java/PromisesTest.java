@@ -22,25 +22,6 @@ public final class PromisesTest {
         Due.end("PromisesTest");
     }
 
-    /** Points 4 .. 7 at (100, 100), (-100, 100), (-100, -100), (100, -100). */
-    private static SquareMesh four() {
-        SquareMesh m = new SquareMesh();
-        m.point(100, 100);
-        m.point(-100, 100);
-        m.point(-100, -100);
-        m.point(100, -100);
-        return m;
-    }
-
-    /** Point 4 in the middle; a fixed line 3, 4, 1: two regions. */
-    private static SquareMesh halves() {
-        SquareMesh m = new SquareMesh();
-        m.point(0, 0);
-        m.fix(3, 4);
-        m.fix(4, 1);
-        return m;
-    }
-
     private static void changes() {
         promise1();
         promise2();
@@ -143,7 +124,7 @@ public final class PromisesTest {
     }
 
     private static void promise3() {
-        SquareMesh m = four();
+        SquareMesh m = Meshes.four();
         Due.is("3 drop", m.drop(5), true);
         Due.is("3 gone", m.of(5, 0), -100000);
         Due.is("3 at", m.at(-100, 100), -1);
@@ -163,7 +144,7 @@ public final class PromisesTest {
     }
 
     private static void promise4() {
-        SquareMesh m = four();
+        SquareMesh m = Meshes.four();
         m.height(4, 77);
         int steps = m.steps();
         Due.is("4 move", m.move(4, 200, 300), true);
@@ -190,7 +171,7 @@ public final class PromisesTest {
     }
 
     private static void promise5() {
-        SquareMesh m = four();
+        SquareMesh m = Meshes.four();
         Due.is("5 fix", m.fix(7, 5), true);
         Due.is("5 it is an edge", m.isEdge(5, 7), true);
         Due.is("5 not twice", m.fix(5, 7), false);
@@ -220,7 +201,7 @@ public final class PromisesTest {
     }
 
     private static void promise6() {
-        SquareMesh m = four();
+        SquareMesh m = Meshes.four();
         m.fix(5, 7);
         Due.is("6 free", m.free(7, 5), true);
         Due.is("6 not fixed", m.isFixed(5, 7), false);
@@ -360,7 +341,7 @@ public final class PromisesTest {
     }
 
     private static void promise11And12() {
-        SquareMesh m = halves();
+        SquareMesh m = Meshes.halves();
         Due.is("12 none yet", m.fill(), -1);
         Due.is("11 hole", m.hole(500, 500), 1);
         Due.is("11 the same place", m.hole(500, 500), 2);
@@ -448,7 +429,7 @@ public final class PromisesTest {
     }
 
     private static void stepsOfHoles() {
-        SquareMesh m = halves();
+        SquareMesh m = Meshes.halves();
         m.hole(500, 500);
         m.fill();
         m.hole(-500, -500);
@@ -508,7 +489,7 @@ public final class PromisesTest {
     }
 
     private static void promise59And60() {
-        SquareMesh m = four();
+        SquareMesh m = Meshes.four();
         m.fix(4, 6);
         m.hole(500, 500);
         m.height(4, 9);
@@ -561,7 +542,7 @@ public final class PromisesTest {
     }
 
     private static void counts() {
-        SquareMesh m = four();
+        SquareMesh m = Meshes.four();
         Due.is("15 points", m.is(0), 8);
         Due.is("15 triangles", m.is(1), 10);
         Due.is("15 edges", m.is(2), 17);
@@ -591,7 +572,7 @@ public final class PromisesTest {
     }
 
     private static void promise16() {
-        SquareMesh m = four();
+        SquareMesh m = Meshes.four();
         m.fix(4, 5);
         m.height(4, -3);
         Due.is("16 x", m.of(5, 0), -100);
@@ -620,7 +601,7 @@ public final class PromisesTest {
     }
 
     private static void promise17() {
-        SquareMesh m = four();
+        SquareMesh m = Meshes.four();
         Due.is("17 at", m.at(-100, 100), 5);
         Due.is("17 of the square", m.at(-1000, 1000), 3);
         Due.is("17 none", m.at(0, 0), -1);
@@ -706,7 +687,7 @@ public final class PromisesTest {
     }
 
     private static void stars() {
-        SquareMesh m = four();
+        SquareMesh m = Meshes.four();
         int[] star = {2, 3, 5, 6, 7, -1};
         for (int k = 0; k < 6; k++) {
             Due.is("27 star " + k, m.star(4, k), star[k]);
@@ -754,7 +735,7 @@ public final class PromisesTest {
     }
 
     private static void lines() {
-        SquareMesh m = four();
+        SquareMesh m = Meshes.four();
         Due.is("29 none", m.crossed(4, 6), 0);
         Due.is("29 one", m.crossed(5, 7), 1);
         Due.is("29 turned", m.crossed(7, 5), 1);
@@ -785,7 +766,7 @@ public final class PromisesTest {
     }
 
     private static void regions() {
-        SquareMesh m = halves();
+        SquareMesh m = Meshes.halves();
         // (0, 1, 4), (0, 4, 3), (1, 2, 4), (2, 3, 4)
         Due.is("32 first", m.region(0), 0);
         Due.is("32 with it", m.region(1), 0);
@@ -820,7 +801,7 @@ public final class PromisesTest {
     }
 
     private static void measures() {
-        SquareMesh m = four();
+        SquareMesh m = Meshes.four();
         Due.is("34 nearest", m.nearest(90, 60), 4);
         Due.is("34 of like ones", m.nearest(0, 0), 4);
         Due.is("34 far", m.nearest(-1000, 1000), 3);
@@ -858,7 +839,7 @@ public final class PromisesTest {
     }
 
     private static void bents() {
-        SquareMesh m = four();
+        SquareMesh m = Meshes.four();
         Due.is("39 none", m.bent(0), -1);
         m.fix(4, 5);
         Due.is("39 not one that is allowed", m.bent(0), -1);
@@ -906,7 +887,7 @@ public final class PromisesTest {
     }
 
     private static void waysAlongEdges() {
-        SquareMesh m = four();
+        SquareMesh m = Meshes.four();
         Due.is("37 how many", m.tree(-1, 0), 7);
         Due.is("37 how many, others", m.tree(-1, 1), -1);
         // 4 and 5, 4 and 7, 5 and 6 are alike; then the square's corners at 900 and 900
@@ -955,7 +936,7 @@ public final class PromisesTest {
         Due.is("42 below", m.shortest(0, 2, -2), -1);
         Due.is("42 no such point", m.shortest(5, 0, -1), -1);
         Due.is("42 point above", m.shortest(0, 64, 0), -1);
-        SquareMesh alike = four();
+        SquareMesh alike = Meshes.four();
         Due.is("42 downward", alike.shortest(4, 6, -1), 282);
         Due.is("42 alike", alike.shortest(5, 7, -1), 400);
         Due.is("42 of like ones the least", alike.shortest(5, 7, 1), 4);
@@ -989,7 +970,7 @@ public final class PromisesTest {
         Due.is("44 how far", m.centre(1), 1);
         Due.is("44 others", m.centre(2), -1);
         Due.is("44 below", m.centre(-1), -1);
-        SquareMesh eight = four();
+        SquareMesh eight = Meshes.four();
         int[] least = {-1, 1000};
         for (int p = 0; p < 8; p++) {
             int far = 0;
@@ -1045,7 +1026,7 @@ public final class PromisesTest {
     }
 
     private static void passages() {
-        SquareMesh m = halves();
+        SquareMesh m = Meshes.halves();
         Due.is("52 none", m.passage(0, -500, 0, 500, -1), -1);
         Due.is("52 none, first", m.passage(0, -500, 0, 500, 0), -1);
         Due.is("52 with it", m.passage(0, -500, -500, 0, -1), 1);
@@ -1105,7 +1086,7 @@ public final class PromisesTest {
         Due.is("54 out", m.wouldPoint(0, 1001), -1);
         Due.is("54 nothing changed", m.is(1), 2);
         Due.is("54 no step", m.steps(), 0);
-        m = four();
+        m = Meshes.four();
         Due.is("55 drop", m.wouldDrop(4), 3);
         Due.is("55 of the square", m.wouldDrop(0), -1);
         Due.is("55 none there", m.wouldDrop(8), -1);

@@ -231,8 +231,7 @@ final class RegionSentences {
     private static void passageRefused() {
         Due.says(52, "NONE: there is none (such), a place is out of the square.");
         SquareMesh m = Meshes.halves();
-        int[][] out = {{1001, 0}, {-1001, 0}, {0, 1001}, {0, -1001}, {MIN, 0}, {0, MIN}, {MAX, 0}, {0, MAX}};
-        for (int[] place : out) {
+        for (int[] place : Meshes.OUT) {
             for (int i = -1; i < 2; i++) {
                 Due.is("from " + place[0] + ", " + place[1] + ": " + i, m.passage(place[0], place[1], 0, 1, i), -1);
                 Due.is("to " + place[0] + ", " + place[1] + ": " + i, m.passage(0, 1, place[0], place[1], i), -1);

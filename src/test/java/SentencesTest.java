@@ -8,6 +8,7 @@ public final class SentencesTest {
 
     public static void main(String[] args) {
         PointSentences.all();
+        ChangeSentences.all();
         ManySentences.all();
         StepSentences.all();
         MeshSentences.all();

@@ -10,6 +10,7 @@ final class StepSentences {
         noneToTakeBack();
         howMany();
         wholeStates();
+        fewerTriangles();
         imageOfAll();
         imageStays();
         backInto20();
@@ -178,6 +179,29 @@ final class StepSentences {
         Due.is("all at their places", m.ofRegion(region, 3), 8);
         Due.is("all TRIANGLES", m.is(1), 74);
         Due.is("the last TRIANGLE", m.corner(73, 2) != -1, true);
+    }
+
+    // Fewer triangles than there were once: none of those may come again.
+    private static void fewerTriangles() {
+        Due.says(14, "(all is as ahead of it");
+        SquareMesh m = Meshes.full();
+        for (int p = 39; p >= 10; p--) {
+            m.drop(p);
+        }
+        String few = Meshes.shape(m);
+        m.point(900, 900);
+        m.undo();
+        Due.same("undo()", Meshes.shape(m), few);
+        Due.says(60, "BACK: all is so again.");
+        m.image();
+        m.point(-900, 900);
+        m.back();
+        Due.same("back()", Meshes.shape(m), few);
+        WholeMesh w = new WholeMesh(m);
+        Due.is("the square", w.doubleArea(), 8000000);
+        Due.is("circles that aren't empty", w.unruly(), 0);
+        Due.is("what a POINT more would change", m.wouldPoint(900, -900) > 0, true);
+        Due.is("what one less would change", m.wouldDrop(9) > 0, true);
     }
 
     private static void imageOfAll() {

@@ -1,5 +1,7 @@
 import java.util.HashMap;
 import java.util.Map;
+import java.util.Set;
+import java.util.TreeSet;
 
 /** Looks at a whole mesh through the face alone: all that the document says THE MESH is. */
 final class WholeMesh {
@@ -145,10 +147,10 @@ final class WholeMesh {
     }
 
     /** The triangles by the places of their corners, whatever the numbers; in no order. */
-    java.util.Set<String> byPlaces() {
-        java.util.Set<String> found = new java.util.TreeSet<>();
+    Set<String> byPlaces() {
+        Set<String> found = new TreeSet<>();
         for (int[] c : corners) {
-            java.util.TreeSet<String> places = new java.util.TreeSet<>();
+            TreeSet<String> places = new TreeSet<>();
             for (int p : c) {
                 places.add(xs[p] + " " + ys[p]);
             }
