@@ -386,6 +386,13 @@ final class ManySentences {
         Due.is("on the BORDER", m.of(5, 1), 0);
         m.free(4, 2);
         Due.is("the one that may be", m.smooth(), 1);
+        // 6 has 4, 5 and 7: Y 2 by 3, downward on the FIXED EDGE
+        SquareMesh onto = Meshes.told(-100, 0, 100, 0, 0, 1, 0, 2);
+        onto.fix(4, 5);
+        onto.smooth();
+        Due.is("onto a FIXED EDGE", onto.at(0, 0), 6);
+        Due.is("that is two then", onto.isFixed(4, 6) && onto.isFixed(6, 5), true);
+        Due.is("and it may not be any more", onto.drop(6), false);
         SquareMesh full = Meshes.full();
         full.move(39, 999, 999);
         full.smooth();

@@ -133,6 +133,7 @@ final class PlaceSentences {
         walked(m, 0, 0, -1, 0, 0, 1);
         walked(m, 0, 0, 1, 3, 2, 1);
         walked(m, 3, 500, 0, 2, 1, 1);
+        walked(Meshes.halves(), 0, 0, 1, 3, 2, 1);
         Due.says(26, "(its EDGES, corners, too; 2: 1, 0)");
         walked(m, 0, 500, -500, 0, 0, 1);
         walked(m, 2, 500, -500, 2, 0, 1);

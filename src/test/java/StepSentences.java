@@ -290,6 +290,10 @@ final class StepSentences {
         Due.is("more in THE IMAGE", m.fresh(), 2);
         m.back();
         Due.is("back", m.fresh(), 0);
+        SquareMesh moved = Meshes.middle();
+        moved.image();
+        moved.move(4, 1, 0);
+        Due.is("told by the same corners", moved.fresh(), 0);
         SquareMesh full = Meshes.full();
         full.image();
         Due.is("of all 74", full.fresh(), 0);
